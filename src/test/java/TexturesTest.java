@@ -9,6 +9,7 @@ public final class TexturesTest {
         leastSum();
         firstOfSeveral();
         onlyGroundsHaveOne();
+        askedFirst();
         noWay();
         oddRingAndTwoApart();
         farGroundsDoNotMind();
@@ -125,6 +126,22 @@ public final class TexturesTest {
         textures("two grounds", t, 1, NONE, NONE, 0, 1);
         t.undo();
         textures("undone", t, 0, NONE, NONE, 0, NONE);
+    }
+
+    private static void askedFirst() {
+        TouchSheet t = grounds(0, 0, 1, 1, 2, 0, 3, 1);
+        Due.due("21 ahead of cost", t.texture(1), 1);
+        t.price(0, 7);
+        Due.due("21 after another price", t.texture(1), 2);
+        t.apart(1, 2, false);
+        Due.due("21 after less is told apart", t.texture(1), 3);
+        t.ground(0, 2, 3, 3, 1);
+        Due.due("21 after another ground", t.texture(1), 1);
+        t.undo();
+        Due.due("21 after undo", t.texture(1), 3);
+        TouchSheet printedFirst = grounds(0, 0, 2, 2, 3, 0, 5, 2);
+        printedFirst.price(0, 50);
+        Due.due("21 print asks by itself", printedFirst.print(1) + printedFirst.up(1, 1), 10);
     }
 
     private static void noWay() {
