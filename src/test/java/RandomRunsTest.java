@@ -4,6 +4,7 @@ import java.util.Random;
 public final class RandomRunsTest {
     private static final int RUNS = 260;
     private static final int CALLS = 512;
+    private static final int MOST_AT_ONCE = 9;
     private static final int[] ODD = {
         Integer.MIN_VALUE, Integer.MIN_VALUE + 10, -32, -1, 12, 24, 31, 32, 33, 64, 4096, Integer.MAX_VALUE};
 
@@ -31,7 +32,7 @@ public final class RandomRunsTest {
     }
 
     private void calls() {
-        while (call < CALLS) {
+        while (call + MOST_AT_ONCE <= CALLS) {
             int what = random.nextInt(20);
             if (what < 7) {
                 shape();

@@ -253,20 +253,26 @@ public final class ShapesTest {
     }
 
     private static void pinsOfOthers() {
-        TouchSheet t = new TouchSheet();
-        t.ground(2, 3, 4, 6, 1);
-        t.mark(0, 0, 1);
         for (int y = 0; y < 24; y++) {
+            TouchSheet t = groundAndMark();
             for (int x = 0; x < 24; x++) {
                 boolean inGround = x >= 2 && x <= 4 && y >= 3 && y <= 6;
                 Due.due("13 of a ground " + x + ", " + y, t.pin(0, x, y), inGround ? 1 : 0);
                 Due.due("13 of a mark " + x + ", " + y, t.pin(1, x, y), x + y <= 1 ? 1 : 0);
             }
         }
+        TouchSheet t = groundAndMark();
         int[][] none = {{2, 0, 0}, {-1, 0, 0}, {0, -1, 0}, {0, 0, -1}, {0, 24, 0}, {0, 0, 24}, {0, 32, 3}};
         for (int[] p : none) {
             Due.due("13 pin " + p[0] + " " + p[1] + " " + p[2], t.pin(p[0], p[1], p[2]), NONE);
         }
+    }
+
+    private static TouchSheet groundAndMark() {
+        TouchSheet t = new TouchSheet();
+        t.ground(2, 3, 4, 6, 1);
+        t.mark(0, 0, 1);
+        return t;
     }
 
     private static void far() {
